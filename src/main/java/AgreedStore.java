@@ -17,6 +17,12 @@ public final class AgreedStore {
     private static final int ON_THE_WAY = 128;
     private static final int ALL_SERVERS = 127;
     private static final int MANY = 1_000_000;
+    private static final int LEAST = 0x80000000;
+    private static final int GREATEST = 0x7FFFFFFF;
+
+    /** All rows of numbers that seem to be drawn go on so: times FACTOR plus ADDEND. */
+    private static final long FACTOR = 6364136223846793005L;
+    private static final long ADDEND = 1442695040888963407L;
 
     /** Letters. */
     private static final int PREASK = 1;
@@ -189,7 +195,7 @@ public final class AgreedStore {
     }
 
     public int step() {
-        return happen(Integer.MAX_VALUE);
+        return happen(GREATEST);
     }
 
     public int delay(int from, int to, int ticks) throws IndexOutOfBoundsException, IllegalArgumentException {
@@ -505,10 +511,6 @@ public final class AgreedStore {
         return bell;
     }
 
-    private static long churn(long draw) {
-        return draw * 6364136223846793005L + 1442695040888963407L;
-    }
-
     /** A letter between servers, a request or a reply; it is used again when it has arrived or was lost. */
     private static final class Letter {
         int time;
@@ -531,8 +533,8 @@ public final class AgreedStore {
         int session;
         int serial;
         int asking;
+        /** How many entries or bytes it brings. */
         int count;
-        int length;
         final int[] rows = new int[AT_ONCE * ROW];
         final byte[] bytes = new byte[PIECE_SIZE];
 
@@ -553,14 +555,15 @@ public final class AgreedStore {
             serial = other.serial;
             asking = other.asking;
             count = other.count;
-            length = other.length;
             System.arraycopy(other.rows, 0, rows, 0, rows.length);
             System.arraycopy(other.bytes, 0, bytes, 0, bytes.length);
         }
 
-        void fill(byte[] source, int at, int size) {
-            length = Math.max(0, Math.min(Math.min(size, bytes.length), source.length - at));
-            System.arraycopy(source, at, bytes, 0, length);
+        void fill(byte[] source, int at, int most) {
+            count = Math.max(0, Math.min(Math.min(most, bytes.length), source.length - at));
+            if (count > 0) {
+                System.arraycopy(source, at, bytes, 0, count);
+            }
         }
     }
 
@@ -616,9 +619,9 @@ public final class AgreedStore {
                 lose(letter);
                 return;
             }
-            Letter second = null;
-            if (drawn(1000) < twice) {
-                second = blank();
+            boolean doubled = drawn(1000) < twice;
+            Letter second = !doubled ? null : spare.isEmpty() ? new Letter() : spare.remove(spare.size() - 1);
+            if (second != null) {
                 second.copyFrom(letter);
             }
             launch(letter, due + drawn(spread + 1));
@@ -628,7 +631,7 @@ public final class AgreedStore {
         }
 
         int drawn(int bound) {
-            draw = churn(draw);
+            draw = draw * FACTOR + ADDEND;
             return bound < 1 ? 0 : (int) ((draw >>> 33) % bound);
         }
 
@@ -725,7 +728,7 @@ public final class AgreedStore {
         }
 
         void drawAlarm(int server) {
-            rows[server] = churn(rows[server]);
+            rows[server] = rows[server] * FACTOR + ADDEND;
             setBell(server, now + 50 + (int) ((rows[server] >>> 33) % 50));
         }
     }
@@ -956,7 +959,7 @@ public final class AgreedStore {
         void fall(long row) {
             long r = row;
             for (int f = 0; f < FILES; f++) {
-                r = churn(r);
+                r = r * FACTOR + ADDEND;
                 int span = 2 * Math.max(0, pages[f].size - low[f]) + 1;
                 if (r >>> 61 != 0) {
                     cutTo(f, low[f] + (int) ((r >>> 33 & 0xFFFFF) % span));
@@ -1056,6 +1059,7 @@ public final class AgreedStore {
     private static final class Log {
         final int firstMembers;
         final int[] rows = new int[ENTRIES * ROW];
+        final int[] draft = new int[ROW];
         int base;
         int baseTerm;
         int baseMembers;
@@ -1109,6 +1113,17 @@ public final class AgreedStore {
             return start;
         }
 
+        /** The row of an entry that is to be written at once. */
+        int[] rowOf(int term, int kind, int size, int code, int serial, int asking) {
+            draft[TERM] = term;
+            draft[KIND] = kind;
+            draft[SIZE] = size;
+            draft[CODE] = code;
+            draft[SERIAL] = serial;
+            draft[ASKING] = asking;
+            return draft;
+        }
+
         void add(int[] source, int at) {
             if (length() >= ENTRIES) {
                 return;
@@ -1153,11 +1168,11 @@ public final class AgreedStore {
 
         /** The number of the last entry of kind MEMBERS that is not above this one, or BASE. */
         private int membersBehind(int number) {
-            int found = Math.min(number, last);
-            while (found > base && rows[at(found) + KIND] != MEMBERS) {
-                found--;
+            int entry = Math.min(number, last) - base - 1;
+            while (entry >= 0 && rows[entry * ROW + KIND] != MEMBERS) {
+                entry--;
             }
-            return Math.max(found, base);
+            return base + 1 + Math.max(NONE, entry);
         }
     }
 
@@ -1207,37 +1222,50 @@ public final class AgreedStore {
             units = 0;
         }
 
-        void perform(int place, int[] rows, int at) {
-            came = NOTHING;
+        /** What comes of a command's entry; answers the session whose operation is still to be done for it, or NONE. */
+        int admit(int place, int[] rows, int at) {
+            came = DONE;
             cameAt = place;
             outSize = 0;
             if (rows[at + ASKING] == NONE) {
                 openSession(place);
-                came = DONE;
-                return;
+                return NONE;
             }
             int s = findSession(rows[at + CODE]);
             if (s == NONE) {
                 came = UNKNOWN;
-                return;
+                return NONE;
             }
             int row = s * SESSION_ROW;
+            int serial = sessionRows[row + SESSION_SERIAL];
             sessionRows[row + SESSION_USED] = place;
-            int serial = rows[at + SERIAL];
-            if (serial < sessionRows[row + SESSION_SERIAL]) {
-                return;
+            if (rows[at + SERIAL] > serial) {
+                return s;
             }
-            came = DONE;
-            if (serial == sessionRows[row + SESSION_SERIAL]) {
-                outSize = sessionRows[row + SESSION_ANSWER];
-                cameAt = sessionRows[row + SESSION_PLACE];
-                System.arraycopy(answers, s * SAVED, out, 0, outSize);
-                return;
+            if (rows[at + SERIAL] < serial) {
+                came = NOTHING;
+                return NONE;
             }
-            operate(rows[at + ASKING]);
-            outSize = Math.min(outSize, SAVED);
+            cameAt = sessionRows[row + SESSION_PLACE];
+            outSize = sessionRows[row + SESSION_ANSWER];
+            System.arraycopy(answers, s * SAVED, out, 0, outSize);
+            return NONE;
+        }
+
+        /** Does a session's operation: its answer is the session's from now on. */
+        void operate(int s, int serial, int asking) {
+            int from = askings.tell(asking, Askings.FROM);
+            int k = askings.tell(asking, Askings.FIRST);
+            int v = askings.tell(asking, Askings.SECOND);
+            int rest = askings.tell(asking, Askings.LENGTH) - k;
+            switch (askings.tell(asking, Askings.WHAT)) {
+                case PUT: putKey(from, k, rest); break;
+                case SWAP: swapKey(from, k, v, rest - v); break;
+                default: removeKey(from, k); break;
+            }
+            int row = s * SESSION_ROW;
             sessionRows[row + SESSION_SERIAL] = serial;
-            sessionRows[row + SESSION_PLACE] = place;
+            sessionRows[row + SESSION_PLACE] = cameAt;
             sessionRows[row + SESSION_ANSWER] = outSize;
             System.arraycopy(out, 0, answers, s * SAVED, outSize);
         }
@@ -1274,19 +1302,6 @@ public final class AgreedStore {
                 }
             }
             return NONE;
-        }
-
-        private void operate(int asking) {
-            int from = askings.tell(asking, Askings.FROM);
-            int k = askings.tell(asking, Askings.FIRST);
-            int v = askings.tell(asking, Askings.SECOND);
-            int rest = askings.tell(asking, Askings.LENGTH) - k;
-            switch (askings.tell(asking, Askings.WHAT)) {
-                case PUT: putKey(from, k, rest); break;
-                case SWAP: swapKey(from, k, v, rest - v); break;
-                case REMOVE: removeKey(from, k); break;
-                default: break;
-            }
         }
 
         private void putKey(int from, int k, int v) {
@@ -1602,7 +1617,7 @@ public final class AgreedStore {
         }
 
         private static int mostOf(int[] numbers, int set) {
-            int most = Integer.MIN_VALUE;
+            int most = LEAST;
             for (int s = 0; s < SERVERS; s++) {
                 if ((set >> s & 1) != 0 && numbers[s] > most && isReached(numbers, set, numbers[s])) {
                     most = numbers[s];
@@ -1715,7 +1730,6 @@ public final class AgreedStore {
         int pieceBase = NONE;
         int got;
         byte[] pieces = new byte[0];
-        final int[] draft = new int[ROW];
         int due;
 
         Server(int id, int firstMembers, World world, Askings askings) {
@@ -1907,16 +1921,6 @@ public final class AgreedStore {
             }
         }
 
-        private void appendOwn(int kind, int size, int code, int serial, int asking) {
-            draft[TERM] = term;
-            draft[KIND] = kind;
-            draft[SIZE] = size;
-            draft[CODE] = code;
-            draft[SERIAL] = serial;
-            draft[ASKING] = asking;
-            append(draft, 0);
-        }
-
         private Letter letterTo(int to, int kind) {
             Letter letter = world.blank();
             letter.from = id;
@@ -1925,7 +1929,6 @@ public final class AgreedStore {
             letter.term = term;
             letter.word = 0;
             letter.count = 0;
-            letter.length = 0;
             return letter;
         }
 
@@ -2004,7 +2007,9 @@ public final class AgreedStore {
             if (lead.next[peer] <= log.base) {
                 if (lead.flying[peer] == 0) {
                     lead.flying[peer] = 1;
-                    dispatch(pieceFor(peer));
+                    Letter letter = letterTo(peer, PIECE);
+                    putPiece(letter, lead.offset[peer]);
+                    dispatch(letter);
                 }
                 return;
             }
@@ -2015,16 +2020,19 @@ public final class AgreedStore {
                 int entries = Math.min(AT_ONCE, log.last - number + 1);
                 lead.flying[peer]++;
                 lead.next[peer] = number + entries;
-                dispatch(appendFor(peer, number, entries));
+                Letter letter = letterTo(peer, APPEND);
+                putEntries(letter, number, entries);
+                dispatch(letter);
                 none = false;
             }
             if (none && asBeat) {
-                dispatch(appendFor(peer, lead.next[peer], 0));
+                Letter letter = letterTo(peer, APPEND);
+                putEntries(letter, lead.next[peer], 0);
+                dispatch(letter);
             }
         }
 
-        private Letter appendFor(int peer, int number, int entries) {
-            Letter letter = letterTo(peer, APPEND);
+        private void putEntries(Letter letter, int number, int entries) {
             letter.place = number - 1;
             letter.placeTerm = log.termAt(number - 1);
             letter.commit = log.commit;
@@ -2033,21 +2041,18 @@ public final class AgreedStore {
             if (entries > 0) {
                 System.arraycopy(log.rows, log.at(number), letter.rows, 0, entries * ROW);
             }
-            return letter;
         }
 
-        private Letter pieceFor(int peer) {
-            Letter letter = letterTo(peer, PIECE);
+        private void putPiece(Letter letter, int offset) {
             letter.place = log.base;
             letter.placeTerm = log.baseTerm;
             letter.members = log.baseMembers;
             letter.size = disk.snapshotSize();
-            letter.offset = lead.offset[peer];
+            letter.offset = offset;
             letter.round = lead.round;
             if (disk.snapshot != NONE) {
-                letter.fill(disk.pages[disk.snapshot].bytes, letter.offset, letter.size - letter.offset);
+                letter.fill(disk.pages[disk.snapshot].bytes, offset, letter.size - offset);
             }
-            return letter;
         }
 
         // Elections
@@ -2061,6 +2066,10 @@ public final class AgreedStore {
                 requests.dropAll();
                 lead.handing = NONE;
             }
+            follow(newLeader);
+        }
+
+        private void follow(int newLeader) {
             role = FOLLOWS;
             leader = newLeader;
         }
@@ -2105,7 +2114,7 @@ public final class AgreedStore {
             role = LEADS;
             leader = id;
             lead.begin(log.last, world.now);
-            appendOwn(EMPTY, 0, 0, 0, NONE);
+            append(log.rowOf(term, EMPTY, 0, 0, 0, NONE), 0);
             due |= BEAT_DUE;
         }
 
@@ -2161,7 +2170,11 @@ public final class AgreedStore {
                 case PREANSWER: takePreanswer(letter); break;
                 case ASK: takeAsk(letter); break;
                 case ANSWER: takeAnswer(letter); break;
-                case APPEND: takeAppend(letter); break;
+                case APPEND:
+                    if (fits(letter)) {
+                        takeEntries(letter);
+                    }
+                    break;
                 case APPENDED: takeAppended(letter); break;
                 case PIECE: takePiece(letter); break;
                 case STORED: takeStored(letter); break;
@@ -2211,34 +2224,37 @@ public final class AgreedStore {
             }
         }
 
-        /** Whether an APPEND or PIECE is one of the leader that it has now. */
+        /** Whether it takes an APPEND or PIECE of its term as one of its leader's. */
         private boolean heeds(Letter letter) {
-            if (letter.term < term || role == LEADS) {
+            if (role == LEADS) {
                 return false;
             }
-            stepDown(term, letter.from);
+            follow(letter.from);
             heard = world.now;
             world.drawAlarm(id);
             return true;
         }
 
-        private void takeAppend(Letter letter) {
+        /** Whether the entry before those told is its own one, too; else it says where to begin. */
+        private boolean fits(Letter letter) {
             int before = letter.place;
             if (letter.term < term) {
                 sendAppended(letter.from, 0, 0, 0);
             } else if (!heeds(letter)) {
-                return;
+                return false;
             } else if (before > log.last) {
                 sendAppended(letter.from, 0, log.last + 1, letter.round);
             } else if (before >= log.base && log.termAt(before) != letter.placeTerm) {
                 sendAppended(letter.from, 0, log.runStart(before), letter.round);
             } else {
-                takeEntries(letter, Math.max(0, Math.min(letter.count, log.base + ENTRIES_TOLD - before)));
+                return true;
             }
+            return false;
         }
 
-        private void takeEntries(Letter letter, int told) {
+        private void takeEntries(Letter letter) {
             int before = letter.place;
+            int told = Math.max(0, Math.min(letter.count, log.base + ENTRIES_TOLD - before));
             for (int i = 0; i < told; i++) {
                 int number = before + 1 + i;
                 if (number >= log.base && number <= log.commit
@@ -2295,11 +2311,11 @@ public final class AgreedStore {
         }
 
         private void keepPiece(Letter letter) {
-            if (pieces.length < got + letter.length) {
-                pieces = Arrays.copyOf(pieces, 2 * (got + letter.length));
+            if (pieces.length < got + letter.count) {
+                pieces = Arrays.copyOf(pieces, 2 * (got + letter.count));
             }
-            System.arraycopy(letter.bytes, 0, pieces, got, letter.length);
-            got += letter.length;
+            System.arraycopy(letter.bytes, 0, pieces, got, letter.count);
+            got += letter.count;
         }
 
         private void takeSnapshot(Letter letter) {
@@ -2377,7 +2393,7 @@ public final class AgreedStore {
             } else if (log.length() >= ENTRIES_BUSY) {
                 reply(letter.from, letter.term, BUSY, NONE, 0);
             } else {
-                appendOwn(COMMAND, letter.size, letter.session, letter.serial, letter.asking);
+                append(log.rowOf(term, COMMAND, letter.size, letter.session, letter.serial, letter.asking), 0);
                 requests.begin(letter, log.last, term, NONE);
                 due |= SEND_ALL_DUE;
             }
@@ -2414,7 +2430,7 @@ public final class AgreedStore {
             int coming = log.members >> 7 & ALL_SERVERS;
             if (coming != 0) {
                 if (log.length() < ENTRIES) {
-                    appendOwn(MEMBERS, 4, coming | log.members >> 14 << 14, 0, NONE);
+                    append(log.rowOf(term, MEMBERS, 4, coming | log.members >> 14 << 14, 0, NONE), 0);
                     due |= SEND_ALL_DUE;
                 }
             } else if ((log.members >> id & 1) == 0) {
@@ -2423,26 +2439,24 @@ public final class AgreedStore {
         }
 
         private void apply() {
-            int number = log.applied + 1;
-            while (number <= log.commit && log.has(number)) {
-                int at = log.at(number);
+            for (int number = log.applied + 1; number <= log.commit && log.has(number); number++) {
                 log.applied = number;
-                if (log.rows[at + KIND] == COMMAND) {
-                    machine.perform(number, log.rows, at);
-                    answerCommand(number, log.rows[at + TERM]);
+                int at = log.at(number);
+                int slot = requests.waitsFor(number);
+                boolean answers = slot != NONE && requests.term[slot] == log.rows[at + TERM];
+                if (slot != NONE) {
+                    requests.drop(slot);
                 }
-                number++;
-            }
-        }
-
-        private void answerCommand(int number, int itsTerm) {
-            int slot = requests.waitsFor(number);
-            if (slot == NONE) {
-                return;
-            }
-            requests.drop(slot);
-            if (requests.term[slot] == itsTerm && machine.came != NOTHING) {
-                reply(requests.client[slot], requests.request[slot], machine.came, machine.cameAt, machine.outSize);
+                if (log.rows[at + KIND] == COMMAND) {
+                    int session = machine.admit(number, log.rows, at);
+                    if (session != NONE) {
+                        machine.operate(session, log.rows[at + SERIAL], log.rows[at + ASKING]);
+                    }
+                    if (answers && machine.came != NOTHING) {
+                        reply(requests.client[slot], requests.request[slot], machine.came, machine.cameAt,
+                                machine.outSize);
+                    }
+                }
             }
         }
 
@@ -2501,7 +2515,7 @@ public final class AgreedStore {
         }
 
         void setMembers(int code) {
-            appendOwn(MEMBERS, 4, code, 0, NONE);
+            append(log.rowOf(term, MEMBERS, 4, code, 0, NONE), 0);
             sendToAll(false);
         }
 
@@ -2573,7 +2587,6 @@ public final class AgreedStore {
             letter.asking = opening ? NONE : asking;
             letter.size = opening ? 2 : 12 + askings.tell(asking, Askings.LENGTH);
             letter.count = 0;
-            letter.length = 0;
             world.post(letter);
             setAlarm(60, true);
         }
@@ -2615,7 +2628,7 @@ public final class AgreedStore {
                 sendRequest();
                 return;
             }
-            toldSize = Math.min(letter.length, told.length);
+            toldSize = Math.min(letter.count, told.length);
             System.arraycopy(letter.bytes, 0, told, 0, toldSize);
             beTold(TOLD_DONE, letter.place);
         }

@@ -101,6 +101,10 @@ final class Play {
         return told(ask(client, kind, key, rest));
     }
 
+    int swapDone(int client, String key, String expected, String value) {
+        return told(swap(client, key, expected, value));
+    }
+
     int told(int asking) {
         for (int i = 0; i < 100 && s.history(asking, 4) == 0; i++) {
             s.run(10);

@@ -13,6 +13,8 @@ public final class DiskTest {
         crashing();
         torn();
         cutting();
+        justFull();
+        otherTerm();
         c.finish();
     }
 
@@ -401,5 +403,79 @@ public final class DiskTest {
         }
         size = p.s.file(old, 4, 0);
         file(p, old, 4, "synced", size, size, size, 1, 1);
+    }
+
+    /** A segment with 8000 bytes takes one entry more; with 8001 it does not. */
+    private static void justFull() {
+        for (int more = 0; more < 2; more++) {
+            Play p = new Play(1, 5L);
+            p.awaitLeader();
+            p.done(0, Play.PUT, "k", Play.text('v', 85 + more));
+            file(p, 0, 4, "before", 199 + more, 199 + more, 199 + more, 1, 1);
+            p.s.latency(0, 1000);
+            p.swap(0, Play.text('k', 32), Play.text('v', 100), Play.text('w', 100));
+            for (int i = 1; i < 29; i++) {
+                p.s.meddle(0, 1, 0);
+            }
+            p.s.run(3);
+            c.due("entries", 3 + 29, p.s.server(0, Play.LAST));
+            c.due("the segment", 8000 + more, p.s.file(0, 4, 0));
+            p.ask(1, Play.PUT, "k", "v");
+            p.s.run(3);
+            c.due("entries", 3 + 30, p.s.server(0, Play.LAST));
+            c.due("the segment", more == 0 ? 8027 : 8001, p.s.file(0, 4, 0));
+            c.due("the next one", more == 0 ? 0 : 24 + 27, p.s.file(0, 5, 0));
+        }
+    }
+
+    /** A segment that comes back in a crash, with BASE's entry of another term than the snapshot's, is no part of it. */
+    private static void otherTerm() {
+        Play p = Play.three(Play.rowFor(12));
+        int l = p.awaitLeader();
+        p.s.run(20);
+        p.done(0, Play.PUT, "k", "v");
+        p.s.run(20);
+        p.s.part(1 << l | 1 << 8);
+        p.ask(0, Play.PUT, "k", "w");
+        for (int i = 0; i < 60; i++) {
+            p.s.meddle(p.findMessage(10), 1, 0);
+        }
+        p.s.run(8);
+        int old = p.s.server(l, Play.LAST);
+        c.due("what it has alone", 3 + 61, old);
+        int size = p.s.file(l, 4, 1);
+        p.s.run(400);
+        for (int i = 0; i < 40; i++) {
+            c.due("told", 1, p.done(1 + i % 3, Play.PUT, "k", "v" + i));
+        }
+        p.s.latency(l, 300);
+        p.s.part(0);
+        for (int i = 0; i < 5000 && p.s.server(l, Play.BASE) == 0; i++) {
+            p.s.step();
+        }
+        int base = p.s.server(l, Play.BASE);
+        int term = p.s.entry(l, base, 0);
+        c.isTrue("BASE is in what it had", base >= 24 && base < old);
+        file(p, l, 4, "removed, and not synced", 0, size, 0, 0, 1);
+        long row = 0;
+        while (keepOf(row, 4) != 0) {
+            row++;
+        }
+        p.s.crash(l, row);
+        file(p, l, 4, "back again", size, size, size, 1, 1);
+        p.s.start(l);
+        c.due("BASE found", base, p.s.server(l, Play.BASE));
+        c.due("the term of BASE", term, p.s.entry(l, base, 0));
+        c.due("LAST found", base, p.s.server(l, Play.LAST));
+        file(p, l, 4, "removed", 0, 0, 0, 0, 0);
+    }
+
+    /** What is kept of a file with nothing that is not synced: 0 when that is as it was synced. */
+    private static int keepOf(long row, int file) {
+        long r = row;
+        for (int f = 0; f <= file; f++) {
+            r = Play.churn(r);
+        }
+        return keep(r, 0, 0);
     }
 }

@@ -14,6 +14,10 @@ public final class LeadTest {
         leaderLeaves();
         handing();
         handingEnds();
+        handingLasts();
+        lateGo();
+        justHeard();
+        toldTooMuch();
         busy();
         fullLog();
         manyWait();
@@ -423,6 +427,132 @@ public final class LeadTest {
         c.isTrue("no longer than a beat more", q.s.now() <= since + 61);
         server(q, m, "leads on", 1, 3);
         c.due("hand to the other one", true, q.s.hand(m, 3 - m - down));
+    }
+
+    /** Set at a beat, HANDING is still there at the fifth beat behind it, and gone at the sixth. */
+    private static void handingLasts() {
+        Play p = Play.three(Play.rowFor(12));
+        int l = p.awaitLeader();
+        p.s.run(30);
+        int down = (l + 1) % 3;
+        p.s.stop(down);
+        int round = p.s.server(l, Play.ROUND);
+        while (p.s.server(l, Play.ROUND) == round) {
+            p.s.step();
+        }
+        c.due("hand", true, p.s.hand(l, down));
+        p.s.run(50);
+        server(p, l, "hands over still", 12, down, 14, round + 6);
+        p.s.run(9);
+        server(p, l, "hands over still", 12, down, 14, round + 6);
+        p.s.run(1);
+        server(p, l, "hands over no more", 12, -1, 14, round + 7);
+    }
+
+    /** GO comes so late that it is no voter any more: nothing happens. */
+    private static void lateGo() {
+        for (int leaves = 0; leaves < 2; leaves++) {
+            Play p = Play.three(Play.rowFor(12));
+            int l = p.awaitLeader();
+            p.s.run(30);
+            while (p.s.count(0) > 0) {
+                p.s.step();
+            }
+            int to = (l + 1) % 3;
+            c.due("hand", true, p.s.hand(l, to));
+            c.due("later", true, p.s.meddle(p.findMessage(9), 2, 400));
+            p.s.part(1 << to);
+            p.s.run(70);
+            p.s.part(0);
+            p.s.run(100);
+            server(p, l, "hands over no more", 12, -1);
+            int term = p.s.server(l, Play.TERM);
+            if (leaves == 1) {
+                c.due("members", true, p.s.members(l, 7 & ~(1 << to)));
+                p.s.run(50);
+                c.due("learners", true, p.s.learners(l, 1 << to));
+                p.s.run(50);
+                server(p, to, "learns", 10, 7 & ~(1 << to) | 1 << 14 + to);
+            } else {
+                p.s.run(100);
+            }
+            while (p.findMessage(9) >= 0) {
+                p.s.step();
+            }
+            server(p, to, "when GO has come", 1, leaves == 1 ? 0 : 2, 2, leaves == 1 ? term : term + 1);
+        }
+    }
+
+    /** Who heard of a leader within the last fifty ticks grants nothing, unless it has begun again since. */
+    private static void justHeard() {
+        for (int again = 0; again < 2; again++) {
+            Play p = Play.three(Play.rowFor(12));
+            int l = p.awaitLeader();
+            p.s.run(30);
+            int one = (l + 1) % 3;
+            int other = (l + 2) % 3;
+            // The one is parted off until it asks; the other one heard of the leader a moment ago.
+            p.s.part(1 << one);
+            while (p.s.server(one, Play.ROLE) != 1) {
+                p.s.step();
+            }
+            p.s.run(100);
+            p.s.stop(l);
+            int heard = p.s.now();
+            p.s.part(0);
+            if (again == 1) {
+                p.s.stop(other);
+                p.s.start(other);
+            }
+            boolean granted = false;
+            boolean asked = false;
+            while (p.s.now() < heard + 45) {
+                int k = p.s.count(0) > 0 && p.s.message(0, 2) == 1 && p.s.message(0, 1) == other ? 1 : 0;
+                p.s.step();
+                asked |= k == 1;
+                granted |= p.s.server(one, Play.ROLE) == 2;
+            }
+            // It is granted only by one that has begun again; and asked it was in each case, if its alarm rang so soon.
+            if (asked) {
+                seenAsked++;
+                c.due("stands", again == 1, granted);
+            }
+        }
+        c.due("asked in both cases, or in none", true, seenAsked != 1);
+    }
+
+    private static int seenAsked;
+
+    /** Of what is told only the entries up to BASE + 250 are taken. */
+    private static void toldTooMuch() {
+        Play p = Play.three(Play.rowFor(12));
+        int l = p.awaitLeader();
+        p.s.run(30);
+        int x = (l + 1) % 3;
+        p.s.stop(3 - l - x);
+        // Each time it is chosen by x, and parted off before it can tell its entry.
+        p.s.part(1 << x);
+        p.ask(0, Play.PUT, "k", "v");
+        p.s.run(4);
+        p.s.giveUp(0);
+        int last = p.s.server(l, Play.LAST);
+        for (int i = 0; i < 300 && last < 262; i++) {
+            p.s.part(1 << x);
+            while (p.s.server(l, Play.ROLE) == 3) {
+                p.s.step();
+            }
+            p.s.part(0);
+            while (p.s.server(l, Play.ROLE) != 3) {
+                p.s.step();
+            }
+            last = p.s.server(l, Play.LAST);
+        }
+        server(p, l, "has many", 8, 0, 9, 262, 5, 1);
+        server(p, x, "has one", 8, 0, 9, 1);
+        p.s.part(0);
+        p.s.run(1000);
+        server(p, x, "takes no more", 8, 0, 9, 250, 5, 1, 7, 250);
+        server(p, l, "leads on", 1, 3, 9, 262, 5, 1);
     }
 
     /** From 200 entries above BASE on commands are told BUSY, and come again in 20; members can't change. */

@@ -451,7 +451,7 @@ public final class ModelTest {
 
     public static void main(String[] args) {
         int from = args.length > 0 ? Integer.parseInt(args[0]) : 0;
-        int many = args.length > 1 ? Integer.parseInt(args[1]) : 150;
+        int many = args.length > 1 ? Integer.parseInt(args[1]) : 300;
         int bad = 0;
         for (int run = from; run < from + many && bad < 5; run++) {
             ModelTest test = new ModelTest(run);

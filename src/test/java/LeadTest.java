@@ -5,7 +5,9 @@ public final class LeadTest {
     public static void main(String[] args) {
         election();
         noQuorum();
+        quorumEdge();
         refusals();
+        heardEdge();
         oldLeader();
         copying();
         snapshotSent();
@@ -99,6 +101,83 @@ public final class LeadTest {
         q.s.part(1 << (m + 1) % 3);
         q.s.run(1000);
         server(q, m, "with one other", 1, 3);
+    }
+
+    /** Heard of exactly a hundred ticks ago is enough, a hundred and one is not. */
+    private static void quorumEdge() {
+        for (int there = 4; there <= 5; there++) {
+            Play p = Play.three(Play.rowFor(12));
+            int l = p.awaitLeader();
+            for (int s = 0; s < 3; s++) {
+                p.s.delay(l, s, there);
+                p.s.delay(s, l, 5);
+            }
+            p.s.run(100);
+            int round = p.s.server(l, Play.ROUND);
+            while (p.s.server(l, Play.ROUND) == round) {
+                p.s.step();
+            }
+            // It beats now; answers come with the next beat, behind it, or a tick before.
+            p.s.run(10);
+            p.s.part(1 << l);
+            p.s.run(99);
+            server(p, l, "before the beat", 1, 3, 14, round + 11);
+            p.s.run(1);
+            server(p, l, "at the beat", 1, there == 5 ? 3 : 0);
+            p.s.run(9);
+            server(p, l, "before the next one", 1, there == 5 ? 3 : 0);
+            p.s.run(1);
+            server(p, l, "at that", 1, 0);
+        }
+    }
+
+    /** HEARD fifty ticks ago, it grants; forty-nine ticks ago it does not. */
+    private static void heardEdge() {
+        int tried = 0;
+        for (int before = 0; before < 60; before += 3) {
+            for (int ago = 49; ago <= 50; ago++) {
+                Play p = Play.three(Play.rowFor(12));
+                int l = p.awaitLeader();
+                p.s.run(30);
+                int one = (l + 1) % 3;
+                int other = (l + 2) % 3;
+                p.s.part(1 << one);
+                p.s.run(30 + before);
+                while (!(p.s.count(0) > 0 && p.s.message(0, 2) == 5 && p.s.message(0, 1) == other)) {
+                    p.s.step();
+                }
+                while (p.findMessage(5) >= 0 && p.s.message(0, 2) == 5) {
+                    p.s.step();
+                }
+                int heard = p.s.now();
+                p.s.stop(l);
+                while (p.s.count(0) > 0) {
+                    p.s.meddle(0, 0, 0);
+                }
+                p.s.part(0);
+                while (p.findMessage(1) < 0 && p.s.now() < heard + 45) {
+                    p.s.step();
+                }
+                int k = p.findMessage(1);
+                while (k >= 0 && k < p.s.count(0) && p.s.message(k, 1) != other) {
+                    k++;
+                }
+                if (k < 0 || k >= p.s.count(0) || p.s.message(k, 0) != one || p.s.message(k, 4) > heard + 49) {
+                    continue;
+                }
+                int asked = p.s.message(k, 3);
+                p.s.meddle(k, 2, heard + ago - p.s.message(k, 4));
+                runTo(p, heard + ago);
+                if (p.s.server(other, Play.ROLE) != 0) {
+                    continue;
+                }
+                int back = p.findMessage(2);
+                c.isTrue("it says something", back >= 0);
+                c.due("its term when heard " + ago + " ago", ago == 50 ? asked : asked - 1, p.s.message(back, 3));
+                tried++;
+            }
+        }
+        c.isTrue("it was tried", tried > 3);
     }
 
     /** Those who heard of a leader do not grant; those who know more do not vote. */

@@ -221,6 +221,22 @@ public final class NetTest {
                 c.due("the sum of the times", 0, times);
             }
         }
+        // A number that is LOSS itself loses nothing, one that is TWICE itself doubles nothing.
+        for (long draw = 0; draw < 20; draw++) {
+            long one = Play.churn(draw);
+            int loss = (int) ((one >>> 33) % 1000);
+            int twice = (int) ((Play.churn(one) >>> 33) % 1000);
+            for (int more = 0; more < 2; more++) {
+                Play p = new Play(7, 3L);
+                p.s.noise(loss + more, 0, 0, draw);
+                p.ask(0, Play.GET, "k", "");
+                c.due("lost", loss + more == 0 ? 0 : more, p.s.count(2));
+                p = new Play(7, 3L);
+                p.s.noise(0, twice + more, 1, draw);
+                p.ask(0, Play.GET, "k", "");
+                c.due("on their way", 1 + more, p.s.count(0));
+            }
+        }
         // Parted messages draw nothing.
         Play p = new Play(7, 3L);
         p.s.noise(0, 0, 1000, 4L);
